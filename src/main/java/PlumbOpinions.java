@@ -1155,17 +1155,13 @@ public final class PlumbOpinions {
 
         private boolean readPart(char part) {
             if (part == '+') {
-                return readSign();
+                isNegative = isNext('-');
+                return readExactly(isNegative ? '-' : '+');
             }
             if (part == '0') {
                 return readNumber(1);
             }
             return part == '9' ? readNumber(2) : readExactly(part);
-        }
-
-        private boolean readSign() {
-            isNegative = isNext('-');
-            return readExactly(isNegative ? '-' : '+');
         }
 
         private boolean readNumber(int mostDigits) {

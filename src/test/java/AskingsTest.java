@@ -20,6 +20,7 @@ public final class AskingsTest extends Bench {
         test.promise26();
         test.promise27();
         test.promise28();
+        test.fullHouse();
         test.check.close();
     }
 
@@ -158,6 +159,8 @@ public final class AskingsTest extends Bench {
         due(4, () -> x.puller(0), "18");
         due(0, () -> x.puller(2), "the other way");
         due(INDEX, () -> x.puller(5), "person 5");
+        given("o-3;f25*1");
+        due(2, () -> x.puller(5), "a weight of 1 by 1");
         for (int odd : ODD) {
             due(INDEX, () -> x.puller(odd), "person " + odd);
         }
@@ -234,6 +237,21 @@ public final class AskingsTest extends Bench {
         given("r");
         due(0, () -> x.restsIn(), "behind two rounds");
 
+        fresh("promise 20, never");
+        given("o+14;s+15;s+16;h0=1;h1=6;h2=9;f01*9;f02*5;f12*8");
+        // 0: 243 / 16 = 15, 1: 359 / 24 = 14, and then 0: 236 / 16 = 14, 1: 361 / 24 = 15; 2 has no step.
+        due(NONE, () -> x.restsIn(), "to and fro");
+        given("r");
+        check.same("persons", "15 14 16", x.personOf(0, 0) + " " + x.personOf(1, 0) + " " + x.personOf(2, 0));
+        given("r");
+        check.same("persons", "14 15 16", x.personOf(0, 0) + " " + x.personOf(1, 0) + " " + x.personOf(2, 0));
+        due(14, () -> x.tiltIn(0, 30), "behind 30 rounds");
+        due(15, () -> x.tiltIn(0, 29), "behind 29 rounds");
+        given("b02<1;b12<1");
+        // Beam 0 creaks in each 2nd round, beam 1 in each 1st of two.
+        due(6, () -> x.breaksIn(0), "beam 0");
+        due(5, () -> x.breaksIn(1), "beam 1");
+
         fresh("promise 20, a stubborn one without a step");
         given("s+20;o+20;f01*9;h0=9;p1*1");
         // 1: (19 + 180) / 10 = 19.
@@ -260,6 +278,13 @@ public final class AskingsTest extends Bench {
         due(NONE, () -> x.breaksIn(0), "one creak");
         given("f01*0;r;r;f01*3");
         due(1, () -> x.breaksIn(0), "a third creak");
+
+        fresh("promise 21, a slow one");
+        given("o+1;s+1;s+20;h1=8;h2=9;f12*9;b01<4");
+        // 1 goes by 1 in each round: it creaks in the rounds 5, 6 and 7.
+        due(7, () -> x.breaksIn(0), "at first");
+        given("r;r;r;r;r");
+        due(2, () -> x.breaksIn(0), "behind 5 rounds");
 
         fresh("promise 21, tilts that part");
         given("o+1;o+1;o+20;f12*2;b01<1;h0=9");
@@ -308,6 +333,14 @@ public final class AskingsTest extends Bench {
         bothCamps(2);
         given("f15*0");
         bothCamps(3);
+
+        fresh("promises 23 and 24, from the first on");
+        given("o-1;o-2;o+3;o+4");
+        bothCamps(4);
+        given("f01*1");
+        bothCamps(3);
+        given("f23*1;f12*9");
+        bothCamps(2);
     }
 
     private void bothCamps(int want) {
@@ -319,6 +352,13 @@ public final class AskingsTest extends Bench {
         fresh("promise 25");
         due(NONE, () -> x.greatest(true), "nobody, left");
         due(NONE, () -> x.greatest(false), "nobody, right");
+        given("o+1");
+        due(0, () -> x.greatest(false), "right, the first one");
+        given("p0*1;s-1");
+        due(NONE, () -> x.greatest(false), "right");
+        due(1, () -> x.greatest(true), "left, by 1");
+
+        fresh("promise 25, of several");
         given("o+0;o+3");
         due(NONE, () -> x.greatest(true), "left");
         due(1, () -> x.greatest(false), "right");
@@ -392,5 +432,35 @@ public final class AskingsTest extends Bench {
         due(true, () -> x.isEven(), "three");
         given("r;r;p1*9");
         due(true, () -> x.isEven(), "behind rounds");
+    }
+
+    /** Six persons, all friends, and six beams: where a step too far would fall out of a row. */
+    private void fullHouse() {
+        fresh("a full house");
+        given("o+20;o-20;s+10;s-10;o+5;o+0 f01*1;f02*2;f03*3;f04*4;f05*5;f12*6;f13*7;f14*8;f15*9;f23*1");
+        given("f24*2;f25*3;f34*4;f35*5;f45*6 b50<40;b51<40;b52<40;b53<40;b54<9;b43<9");
+        // 5: (20 * 5 - 20 * 9 + 10 * 3 - 10 * 5 + 5 * 6) / 29 = -70 / 29.
+        due(-2, () -> x.mean(5), "mean");
+        due(-2, () -> x.meanAgain(5), "meanAgain");
+        due(-2, () -> x.wouldMove(5), "wouldMove");
+        due(28, () -> x.personOf(5, 5), "weights");
+        due(5, () -> x.personOf(5, 4), "friends");
+        due(1, () -> x.puller(5), "puller");
+        due(0, () -> x.camp(5), "camp");
+        due(21, () -> x.camp(4), "camp");
+        bothCamps(2);
+        check.same("order", "024531", ranks(0));
+        check.same("order", "012345", ranks(1));
+        check.same("order", "012345", ranks(2));
+        // Weights together: 15, 31, 14, 20, 24, 28.
+        check.same("order", "154302", ranks(3));
+        // Spare: 20, 20, 30, 30, 4, -6.
+        check.same("order", "540123", weakestOrder());
+        due(true, () -> x.isEven(), "isEven");
+        due(15, () -> x.account(1), "pairs");
+        due(6, () -> x.round(), "round");
+        due(5, () -> x.remove(0), "remove");
+        due(4, () -> x.remove(4), "remove the last");
+        check.same("beams", "1-5<40 2-5<40 3-5<40 4-5<9", beams());
     }
 }
