@@ -32,14 +32,6 @@ public final class AccountsTest extends Bench {
         due(1.0f, () -> x.plumbShare(), "3 of 3");
     }
 
-    private String accounts() {
-        StringBuilder accounts = new StringBuilder();
-        for (int what = 0; what <= 10; what++) {
-            accounts.append(what == 0 ? "" : " ").append(x.account(what));
-        }
-        return accounts.toString();
-    }
-
     private void promise38() {
         fresh("promise 38");
         check.same("nothing", "0 0 0 0 0 0 0 0 0 0 0", accounts());
@@ -145,8 +137,8 @@ public final class AccountsTest extends Bench {
         fresh("promise 39, refused calls");
         given("o+1 o+2 o+3");
         for (int call = 0; call < 9; call++) {
-            due(REFUSED, () -> x.remove(0), "remove");
-            check.same("text", REFUSED, run("o+4;x0"));
+            refused("8 0 0", () -> x.remove(0), "remove");
+            refusedText("8 0 1", "o+4;x0");
         }
         due(2, () -> x.undo(), "undo");
         due(1, () -> x.undo(), "undo");
@@ -184,7 +176,7 @@ public final class AccountsTest extends Bench {
         given("o+5 x0 r;r h1=9");
         x.line(2);
         run("q");
-        due(REFUSED, () -> x.remove(7), "remove");
+        refused("8 0 0", () -> x.remove(7), "remove");
         write("r");
         due(2, () -> x.restore(), "two");
         check.same("accounts", "2 1 1 0 1 1 1 0 -8 0 1", accounts());

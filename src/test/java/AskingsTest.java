@@ -54,14 +54,6 @@ public final class AskingsTest extends Bench {
         }
     }
 
-    private String numbers(int person) {
-        StringBuilder numbers = new StringBuilder();
-        for (int what = 0; what <= 7; what++) {
-            numbers.append(what == 0 ? "" : " ").append(x.personOf(person, what));
-        }
-        return numbers.toString();
-    }
-
     private void promise10() {
         fresh("promise 10");
         given("o+1;o+1;o+1;f01*4;f21*9");
@@ -87,14 +79,6 @@ public final class AskingsTest extends Bench {
             due(ARGUMENT, () -> x.beamOf(0, odd), "what " + odd);
             due(INDEX, () -> x.beamOf(odd, odd), "beam " + odd);
         }
-    }
-
-    private String beamNumbers(int beam) {
-        StringBuilder numbers = new StringBuilder();
-        for (int what = 0; what <= 4; what++) {
-            numbers.append(what == 0 ? "" : " ").append(x.beamOf(beam, what));
-        }
-        return numbers.toString();
     }
 
     private void promise12() {
@@ -386,43 +370,27 @@ public final class AskingsTest extends Bench {
         }
     }
 
-    private String ranks(int measure) {
-        StringBuilder ranks = new StringBuilder();
-        for (int place = 0; place < x.account(0); place++) {
-            ranks.append(x.ranked(measure, place));
-        }
-        return ranks.toString();
-    }
-
     private void promise27() {
         fresh("promise 27");
         due(NONE, () -> x.weakest(0), "no beams");
         given("o+10;o-10;o+0;o+5;b01<22;b02<12;b12<8;b13<17;b23<7");
         // Spare: 2, 2, -2, 2, 2.
-        check.same("order", "20134", weakestOrder());
+        check.same("order", "20134", beamRanks());
         given("r;f01*9;h0=9;h1=9 b03<9");
         check.same("beams", "0-1<22 0-2<12 1-2<8! 1-3<17 2-3<7 0-3<9", beams());
         // 0 by 1 to 9, 1 by 1 to -9: spare 4, 3, -1!!, 3, 2, 5.
         given("r");
-        check.same("order", "241305", weakestOrder());
+        check.same("order", "241305", beamRanks());
 
         fresh("promise 27, creaks");
         given("o+10;o+0;o+9;b12<9;b01<9;b02<1;r;p0*1");
         check.same("beams", "1-2<9 0-1<9! 0-2<1", beams());
         // Spare: 0, 0, 1.
-        check.same("order", "102", weakestOrder());
+        check.same("order", "102", beamRanks());
         due(NONE, () -> x.weakest(3), "place 3");
         for (int odd : ODD) {
             due(NONE, () -> x.weakest(odd), "place " + odd);
         }
-    }
-
-    private String weakestOrder() {
-        StringBuilder order = new StringBuilder();
-        for (int place = 0; place < x.account(2); place++) {
-            order.append(x.weakest(place));
-        }
-        return order.toString();
     }
 
     private void promise28() {
@@ -455,7 +423,7 @@ public final class AskingsTest extends Bench {
         // Weights together: 15, 31, 14, 20, 24, 28.
         check.same("order", "154302", ranks(3));
         // Spare: 20, 20, 30, 30, 4, -6.
-        check.same("order", "540123", weakestOrder());
+        check.same("order", "540123", beamRanks());
         due(true, () -> x.isEven(), "isEven");
         due(15, () -> x.account(1), "pairs");
         due(6, () -> x.round(), "round");

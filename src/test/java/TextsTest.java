@@ -22,9 +22,9 @@ public final class TextsTest extends Bench {
         due(60, () -> x.account(10), "characters");
         due(STATE, () -> x.append('r'), "the 61st");
         due(60, () -> x.account(10), "characters");
-        due(ARGUMENT, () -> x.commands(), "commands");
+        check.same("commands", ARGUMENT, run(""));
         due(1, () -> x.append((char) 65535), "any character");
-        due(ARGUMENT, () -> x.commands(), "commands");
+        check.same("commands", ARGUMENT, run(""));
         due(0, () -> x.faultPosition(), "fault");
     }
 
@@ -59,35 +59,26 @@ public final class TextsTest extends Bench {
 
     private void promise30Refused() {
         fresh("promise 30, refused");
-        badText("r", "10 0 0");
-        badText("o+1;r;x0", "8 0 2");
-        badText("o+1;r;o+99", "1 0 2");
-        badText("s-21", "1 0 0");
-        badText("o+1;o+1;o+1;o+1;o+1;o+1;o+1", "2 6 6");
-        badText("o+1;o+1;f02*1", "3 2 2");
-        badText("o+1;o+1;f11*1", "4 1 2");
-        badText("o+1;o+1;f01*0", "5 0 2");
-        badText("o+1;o+1;f01*3;f10*3", "5 3 3");
-        badText("o+1;p0*0", "1 0 1");
-        badText("o+1;p0*1;p0*1", "6 0 2");
-        badText("o+1;h0=7;p0*2", "7 2 2");
-        badText("o+1;o+1;b01<41", "1 0 2");
-        badText("o+1;o+1;b01<40;b10<1", "9 0 3");
-        badText("o+1;h0=0", "5 0 1");
-        badText("o+1;h9=0", "3 1 1");
+        refusedText("10 0 0", "r");
+        refusedText("8 0 2", "o+1;r;x0");
+        refusedText("1 0 2", "o+1;r;o+99");
+        refusedText("1 0 0", "s-21");
+        refusedText("2 6 6", "o+1;o+1;o+1;o+1;o+1;o+1;o+1");
+        refusedText("3 2 2", "o+1;o+1;f02*1");
+        refusedText("4 1 2", "o+1;o+1;f11*1");
+        refusedText("5 0 2", "o+1;o+1;f01*0");
+        refusedText("5 3 3", "o+1;o+1;f01*3;f10*3");
+        refusedText("1 0 1", "o+1;p0*0");
+        refusedText("6 0 2", "o+1;p0*1;p0*1");
+        refusedText("7 2 2", "o+1;h0=7;p0*2");
+        refusedText("1 0 2", "o+1;o+1;b01<41");
+        refusedText("9 0 3", "o+1;o+1;b01<40;b10<1");
+        refusedText("5 0 1", "o+1;h0=0");
+        refusedText("3 1 1", "o+1;h9=0");
         given("o+1;o+1;b01<0");
-        badText("x0;x0", "8 0 1");
-        badText("r;x0;o+2;x9", "8 0 3");
+        refusedText("8 0 1", "x0;x0");
+        refusedText("8 0 3", "r;x0;o+2;x9");
         given("r");
-    }
-
-    private void badText(String text, String reasons) {
-        String before = sums();
-        check.same(text, REFUSED, run(text));
-        check.same("reason of " + text, reasons, reasons());
-        check.same("sums behind " + text, before, sums());
-        check.same("buffer behind " + text, 0, x.account(10));
-        check.same("fault behind " + text, -1, x.faultPosition());
     }
 
     private void promise31() {
@@ -143,11 +134,7 @@ public final class TextsTest extends Bench {
     private void fault(String text, int position) {
         fresh("promise 31");
         given("o+1");
-        String before = sums();
-        check.same(text, ARGUMENT, run(text));
-        check.same("fault of " + text, position, x.faultPosition());
-        check.same("sums behind " + text, before, sums());
-        check.same("buffer behind " + text, 0, x.account(10));
+        faultyText(position, text);
         due(NONE, () -> x.reason(0), "reason behind " + text);
     }
 
@@ -167,8 +154,7 @@ public final class TextsTest extends Bench {
         x.restore();
         run("q");
         check.same("it stays", "8 0 2", reasons());
-        due(REFUSED, () -> x.person(50, false), "another call");
-        check.same("of another call", "1 0 0", reasons());
+        refused("1 0 0", () -> x.person(50, false), "another call");
     }
 
     private void promise33() {

@@ -9,7 +9,7 @@ public final class WalksTest {
 
     private final Check check = new Check();
     private long seed;
-    private PlumbOpinions x;
+    private Called x;
     private Model model;
     private boolean isWild;
     private int calls;
@@ -41,7 +41,7 @@ public final class WalksTest {
         check.about("walk " + walk);
         seed = walk * 7919L + 17;
         isWild = walk % 3 == 0;
-        x = new PlumbOpinions();
+        x = new Called();
         model = new Model();
         calls = 0;
         int changesOfHundred = 35 + below(4) * 5;
