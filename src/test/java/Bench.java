@@ -25,6 +25,7 @@ abstract class Bench {
     /** A new house, to try a sentence of the document; where is "Terms" or a promise. */
     final void sentence(String where, String words) {
         fresh(where + ", \"" + words + "\"");
+        check.same("the document says it", true, Document.says(where, words));
     }
 
     /** Another house for the same topic. */
